@@ -586,16 +586,16 @@ public final class ZhegalkinBench {
         }
 
         private boolean takes(char character) {
-            switch (character) {
-                case '0':
-                    return takesZero();
-                case '1':
-                    return takesOne();
-                case '+':
-                    return takesPlus();
-                default:
-                    return takesVariable(character - 'a');
+            if (character == '0') {
+                return takesZero();
             }
+            if (character == '1') {
+                return takesOne();
+            }
+            if (character == '+') {
+                return takesPlus();
+            }
+            return takesVariable(character - 'a');
         }
 
         private boolean takesZero() {
