@@ -2,6 +2,9 @@
 final class Check {
     private static int wrong = 0;
     private static int checks = 0;
+    private static String sentence = "";
+    /** The lines that were printed for this sentence, or outside of all sentences. */
+    private static int lines = 0;
 
     private Check() {
     }
@@ -9,6 +12,25 @@ final class Check {
     /** A call that may throw. */
     interface Call {
         void run();
+    }
+
+    /**
+     * The test of one sentence of the document: what fails in it is told with the sentence. A
+     * sentence whose test looks at nothing, or that ends by an exception, fails too.
+     */
+    static void sentence(String words, Call test) {
+        sentence = words;
+        lines = 0;
+        int before = checks;
+        String thrown = thrownBy(test);
+        if (!thrown.equals("nothing")) {
+            fail("the test itself ended by " + thrown);
+        }
+        if (checks == before) {
+            fail("nothing was looked at");
+        }
+        sentence = "";
+        lines = 0;
     }
 
     static void due(String what, Object got, Object want) {
@@ -39,7 +61,12 @@ final class Check {
         dueThrow(what, IllegalStateException.class, call);
     }
 
-    private static String thrownBy(Call call) {
+    /** The call throws nothing. */
+    static void dueNoThrow(String what, Call call) {
+        due(what + " throws", thrownBy(call), "nothing");
+    }
+
+    static String thrownBy(Call call) {
         try {
             call.run();
             return "nothing";
@@ -50,8 +77,9 @@ final class Check {
 
     private static void fail(String line) {
         wrong++;
-        if (wrong <= 50) {
-            System.out.println(line);
+        lines++;
+        if (lines <= (sentence.isEmpty() ? 50 : 5)) {
+            System.out.println(sentence.isEmpty() ? line : "<" + sentence + "> " + line);
         }
     }
 

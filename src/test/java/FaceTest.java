@@ -8,16 +8,22 @@ import java.util.TreeSet;
 
 /** The public face of the document, and nothing else that another class can see. */
 public final class FaceTest {
+    /** Each method, and behind it the exceptions that it declares, without "Exception". */
     private static final String[] METHODS = {
-        "int define(int)", "int setTable(int,int)", "int join(int,int,int,int)",
-        "int fix(int,int,boolean)", "int substitute(int,int,int)", "int type(char)",
-        "int clearText()", "int textError()", "int textProducts()", "int undo()",
-        "int takeSnapshot()", "int restoreSnapshot()", "int tableOf(int)", "int valueAt(int,int)",
-        "int weightOf(int)", "boolean dependsOn(int,int)", "int productsByHalves(int)",
-        "int productsBySums(int)", "int degreeOf(int)", "int printedLength(int)",
-        "char printedLetter(int,int)", "int distanceByTrying(int)", "int distanceBySums(int)",
-        "boolean isSelfDual(int)", "boolean isMonotone(int)", "boolean areEnough(int)",
-        "int fewestEnough()", "int recordedStates()"
+        "int define(int) IndexOutOfBounds IllegalState",
+        "int setTable(int,int) IndexOutOfBounds IllegalArgument",
+        "int join(int,int,int,int) IndexOutOfBounds IllegalArgument",
+        "int fix(int,int,boolean) IndexOutOfBounds", "int substitute(int,int,int) IndexOutOfBounds",
+        "int type(char) IllegalState", "int clearText()", "int textError()",
+        "int textProducts() IllegalState", "int undo() IllegalState", "int takeSnapshot()",
+        "int restoreSnapshot() IllegalState", "int tableOf(int) IndexOutOfBounds",
+        "int valueAt(int,int) IndexOutOfBounds", "int weightOf(int) IndexOutOfBounds",
+        "boolean dependsOn(int,int) IndexOutOfBounds", "int productsByHalves(int) IndexOutOfBounds",
+        "int productsBySums(int) IndexOutOfBounds", "int degreeOf(int) IndexOutOfBounds",
+        "int printedLength(int) IndexOutOfBounds", "char printedLetter(int,int) IndexOutOfBounds",
+        "int distanceByTrying(int) IndexOutOfBounds", "int distanceBySums(int) IndexOutOfBounds",
+        "boolean isSelfDual(int) IndexOutOfBounds", "boolean isMonotone(int) IndexOutOfBounds",
+        "boolean areEnough(int) IllegalArgument", "int fewestEnough()", "int recordedStates()"
     };
 
     public static void main(String[] args) {
@@ -67,7 +73,11 @@ public final class FaceTest {
             told.append(comma).append(parameter);
             comma = ",";
         }
-        return told.append(')').toString();
+        told.append(')');
+        for (Class<?> exception : method.getExceptionTypes()) {
+            told.append(' ').append(exception.getSimpleName().replace("Exception", ""));
+        }
+        return told.toString();
     }
 
     private static void namesOfPrivateMethods() {

@@ -1,8 +1,5 @@
 /** Promises 7 to 10: the text, its first error and its products. */
 public final class TextTest {
-    private static final String ALL_PRODUCTS =
-        "1+a+b+ab+c+ac+bc+abc+d+ad+bd+abd+cd+acd+bcd+abcd";
-
     public static void main(String[] args) {
         typeAndClear();
         fullText();
@@ -86,10 +83,10 @@ public final class TextTest {
     }
 
     private static void lastProducts() {
-        error(ALL_PRODUCTS, -1);
-        error(ALL_PRODUCTS + "+", 48);
-        error(ALL_PRODUCTS + "+a", 48);
-        error(ALL_PRODUCTS.substring(0, 44), 44);
+        error(Bench.ALL_PRODUCTS, -1);
+        error(Bench.ALL_PRODUCTS + "+", 48);
+        error(Bench.ALL_PRODUCTS + "+a", 48);
+        error(Bench.ALL_PRODUCTS.substring(0, 44), 44);
         error("a+abcd+abc+abd+ab+acd+ac+ad+a", 28);
         error("a+abcd+abc+abd+ab+acd+ac+a", 26);
         error("a+abcd+abc+abd+ab+acd+ac+a+", 26);
@@ -107,7 +104,7 @@ public final class TextTest {
         Check.due("products of 1", Bench.withText("1").textProducts(), 1);
         Check.due("products of abcd", Bench.withText("abcd").textProducts(), 0x8000);
         Check.due("products of d+1+ab", Bench.withText("d+1+ab").textProducts(), 0x0109);
-        Check.due("products of all", Bench.withText(ALL_PRODUCTS).textProducts(), 65535);
+        Check.due("products of all", Bench.withText(Bench.ALL_PRODUCTS).textProducts(), 65535);
         String[] invalid = {"", "+", "a+", "a+a", "00", "a+a+", "1+1", "abcd+abcd", "x", "0+"};
         for (String text : invalid) {
             ZhegalkinBench bench = Bench.withText(text);
