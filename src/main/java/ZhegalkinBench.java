@@ -582,7 +582,7 @@ public final class ZhegalkinBench {
         }
 
         private boolean isNew(int candidate) {
-            return bit(finished, candidate) == 0;
+            return (finished & (1 << candidate)) == 0;
         }
 
         private boolean takes(char character) {
